@@ -145,6 +145,8 @@ public final class PromisesTest {
     due("the parties stay", x.count(2), 3);
     due("the acts stay", x.count(9), 4);
     due("the slots stay", x.again(0), 3);
+    x.fee(6);
+    x.keep(1);
     rewrite(x, "Hr3456r55r55r55");
     due("hall()", x.hall(), 4);
     int[] want = {15, 4, 0, 0, 0, 6, 3, 0, 0, 0, 1};
@@ -188,12 +190,18 @@ public final class PromisesTest {
     due("seat(0, 0, 1)", x.seat(0, 0, 1), 1);
     due("seat(0, 1, 1)", x.seat(0, 1, 1), 0);
     due("seat(0, 2, 1), the last one", x.seat(0, 2, 1), 0);
+    due("an aisle before the last one", hall("Hr15|5").seat(0, 0, 1), 1);
     due("seat(0, 1, 2)", x.seat(0, 1, 2), 0);
     parties(x, "19 29");
     due("seat(1, 0, 2)", x.seat(1, 0, 2), 1);
     due("seat(0, 0, 2)", x.seat(0, 0, 2), 0);
     due("seat(0, 1, 2)", x.seat(0, 1, 2), 2);
     due("seat(0, 2, 2)", x.seat(0, 2, 2), 2);
+    LoneSeats y = hall("Hr100099");
+    y.ask(2, 9);
+    y.ask(1, 9);
+    int[] takers = {2, 0, 0, 1, 1};
+    for (int s = 0; s < 5; s++) due("seat(0, " + s + ", 2)", y.seat(0, s, 2), takers[s]);
     due("seat(0, 3, 0)", x.seat(0, 3, 0), UNKNOWN);
     due("seat(0, -1, 0)", x.seat(0, -1, 0), UNKNOWN);
     due("seat(1, 1, 3)", x.seat(1, 1, 3), UNKNOWN);
@@ -328,6 +336,8 @@ public final class PromisesTest {
     due("waits(2)", x.waits(2), NONE);
     due("party(3, 2)", x.party(3, 2), 0);
     due("leave(4)", x.leave(4), 1);
+    due("party(4, 2)", x.party(4, 2), 0);
+    due("leave(4) again", x.leave(4), STATE);
     due("leave(2)", x.leave(2), 0);
     due("undo()", x.undo(), 6);
     due("waits(0)", x.waits(0), 2);
@@ -363,6 +373,14 @@ public final class PromisesTest {
     parties(z, "29");
     z.price(1, 1);
     due("shift(1) to equal seats", z.shift(1), STATE);
+    LoneSeats w = hall("Hr15r999");
+    w.ask(1, 9);
+    due("shift(1), its own seat would be lone too", w.shift(1), STATE);
+    LoneSeats v = hall("Hr14|4r95|5");
+    v.ask(1, 1);
+    due("shift(1), nothing within its limit", v.shift(1), STATE);
+    v.price(1, 1);
+    due("shift(1), by one", v.shift(1), 1);
   }
 
   private static void shiftAndLetIn() {
@@ -578,6 +596,13 @@ public final class PromisesTest {
     long[] wrongOnes = {0, 1, 99, 800, 999, 101, 110, 171, 200, 202, 310, 300, 321, 311, 402, 410,
         400, 501, 600, 602, 631, 701, 710, 771, 721};
     for (long one : wrongOnes) due("judge(1, " + one + ")", x.judge(1, one), 0);
+    LoneSeats y = hall("Hr1555555555");
+    due("a place for 7", y.judge(1, 779), 0);
+    due("a party of 7", y.judge(1, 179), 0);
+    LoneSeats z = hall("Hr1555");
+    due("a place with a lone seat", z.judge(1, 729), 0);
+    due("a party with a lone seat", z.judge(1, 129), 0);
+    due("after another one", z.judge(2, 119129), NONE);
     due("leading zeros", x.judge(2, 601), 0);
     due("the second one is wrong", x.judge(3, 601000601L), 1);
     due("the last one is wrong", x.judge(4, 601601601602L), 3);
@@ -758,6 +783,10 @@ public final class PromisesTest {
     due("size 2 and limit 2", y.drawn(1), 4);
     y.seed(seedBefore(4 * 1));
     due("size 2 and limit 1", y.drawn(1), 0);
+    LoneSeats z = hall("Hr1555");
+    z.seed(seedBefore(4 * 1 + 24 * 8));
+    due("size 2, would leave a lone seat", z.drawn(1), 0);
+    due("the most events", z.drawn(20) == OUTSIDE ? 1 : 0, 0);
     drawnReturns();
   }
 
@@ -803,6 +832,33 @@ public final class PromisesTest {
     x.fee(6);
     x.again(1);
     due("the fee", x.count(7), 5);
+    keepAllParties();
+  }
+
+  private static void keepAllParties() {
+    LoneSeats x = hall("Hr155");
+    for (int p = 1; p <= 30; p++) {
+      x.giveBack(p - 1);
+      x.ask(2, 1 + p % 9);
+    }
+    due("keep(0)", x.keep(0), 30);
+    x.hall();
+    due("hall() empties it", x.again(0), STATE);
+    for (int p = 1; p <= 30; p++) {
+      x.giveBack(p - 1);
+      x.ask(2, 1 + p % 9);
+    }
+    x.keep(0);
+    x.giveBack(30);
+    for (int i = 0; i < 13; i++) x.undo();
+    x.ask(1, 1);
+    due("again(0)", x.again(0), 30);
+    for (int p = 1; p <= 30; p++) {
+      due("party(" + p + ", 0)", x.party(p, 0), 2);
+      due("party(" + p + ", 1)", x.party(p, 1), 1 + p % 9);
+      due("party(" + p + ", 2)", x.party(p, 2), p == 30 ? 1 : 0);
+      due("party(" + p + ", 5)", x.party(p, 5), p == 30 ? 2 : 0);
+    }
   }
 
   private static void again() {
