@@ -521,13 +521,15 @@ final class ChanceEdges extends Edges {
     return x.count(8) - before;
   }
 
+  /** 0 if there is no such party, so that a fault of the class is told and does not hang the test. */
   private static int seatedAt(LoneSeats x, int index) {
-    int p = 0;
-    for (int seen = -1; seen < index; ) {
-      p++;
-      if (x.party(p, 2) == 1) seen++;
+    int before = 0;
+    for (int p = 1; p <= 30; p++) {
+      if (x.party(p, 2) != 1) continue;
+      if (before == index) return p;
+      before++;
     }
-    return p;
+    return 0;
   }
 
   private static void drawnMany() {
